@@ -14,6 +14,7 @@ public final class TicketJudge {
     private static final int MOST_LENGTH = 10;
     private static final int ALL_KINDS = 7;
     private static final int NONE_DOES = -2;
+    private static final int ABOVE_ALL_RANKS = 1000000000;
 
     private final int[] tape = new int[TAPE_BYTES];
     private int tapeSize = 0;
@@ -296,7 +297,7 @@ public final class TicketJudge {
     }
 
     private int nextRank(int rank) {
-        int next = Integer.MAX_VALUE;
+        int next = ABOVE_ALL_RANKS;
         for (int set = 0; set < RULE_SETS; set++) {
             if (ranks[set] > rank && ranks[set] < next) {
                 next = ranks[set];
@@ -548,9 +549,8 @@ public final class TicketJudge {
             return s | (1L << (KNOWN + t));
         }
 
-        /** The next TICKET lives, of nobody, BOUND to a BROWSER. */
-        static long minted(long s, int browser) {
-            int t = given(s);
+        /** TICKET t, the next one, is given: it lives, of nobody, BOUND to a BROWSER. */
+        static long minted(long s, int t, int browser) {
             long fresh = 1L | ((long) browser << BOUND);
             return (s | (fresh << (8 * t))) + (1L << GIVEN);
         }
@@ -668,7 +668,7 @@ public final class TicketJudge {
             if (t >= State.TICKETS) {
                 return REFUSED;
             }
-            long next = State.stored(State.minted(s, browser), browser, t);
+            long next = State.stored(State.minted(s, t, browser), browser, t);
             return browser == State.STRANGER ? State.learnt(next, t) : next;
         }
 
