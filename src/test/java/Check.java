@@ -30,6 +30,15 @@ final class Check {
         }
     }
 
+    /** A text with blanks behind it, up to a length. */
+    static String padded(String text, int length) {
+        StringBuilder b = new StringBuilder(text);
+        while (b.length() < length) {
+            b.append(' ');
+        }
+        return b.toString();
+    }
+
     /** Puts a text on an empty TAPE; each of its chars is a byte. */
     static void put(TicketJudge x, String text) {
         byte[] bytes = text.getBytes(StandardCharsets.ISO_8859_1);
@@ -66,6 +75,52 @@ final class Check {
             answer = x.letter(l);
         }
         return answer;
+    }
+
+    /** All that can be seen of the row: 26 calls. */
+    static String rowLooks(TicketJudge x) {
+        StringBuilder b = new StringBuilder("row");
+        for (int what = 0; what <= 5; what++) {
+            b.append(' ').append(x.row(what));
+        }
+        for (int t = 0; t < 4; t++) {
+            b.append(" ticket");
+            for (int what = 0; what <= 3; what++) {
+                b.append(' ').append(x.ticket(t, what));
+            }
+        }
+        return b.append(" done").toString();
+    }
+
+    /** All that can be seen without a change: some 80 calls. */
+    static String looks(TicketJudge x) {
+        StringBuilder b = new StringBuilder(rowLooks(x)).append(" has");
+        for (int word = 0; word <= 6; word++) {
+            b.append(' ').append(x.has(word));
+        }
+        b.append(" count");
+        for (int what = 0; what <= 16; what++) {
+            b.append(' ').append(x.count(what));
+        }
+        b.append(" goes");
+        for (int task = 0; task < 6; task++) {
+            b.append(' ').append(x.goes(task, 0)).append(x.goes(task, 65));
+        }
+        b.append(" walked ").append(x.walked(0)).append(' ').append(x.walked(1)).append(" least");
+        for (int k = 0; k < 10; k++) {
+            b.append(' ').append(x.least(k));
+        }
+        return b.toString();
+    }
+
+    void same(String call, String got, String want) {
+        seen++;
+        if (!got.equals(want)) {
+            wrong++;
+            if (wrong <= 40) {
+                System.out.println(call + ": " + got + ", due is " + want);
+            }
+        }
     }
 
     /** Four bits a LETTER, the first one lowest. */

@@ -9,6 +9,9 @@ public final class ModelTest {
         "life", "life 0", "life 10", "life 123", "life x", "life 3forms", "earl", "earlyy", "early 5", "7",
         "Early", "stay!", "\u00e9", "\0", "life 00", "life 3 4", "life life", "keep links", "told\t", "x",
     };
+    // What an object answers behind its 512th call is free, so none is asked as often.
+    private static final int TEXTS_OF_ONE = 25;
+    private static final int CALLS_OF_ONE = 350;
     private static final Check CHECK = new Check();
 
     private final Random chance;
@@ -21,6 +24,7 @@ public final class ModelTest {
     private int done = 0;
     private boolean ended = false;
     private Model.Outcome latest = null;
+    private int calls = 0;
 
     private ModelTest(long seed) {
         chance = new Random(seed);
@@ -29,7 +33,7 @@ public final class ModelTest {
     public static void main(String[] args) {
         texts();
         everyRow();
-        for (int run = 0; run < 1500 && CHECK.wrong() < 40; run++) {
+        for (int run = 0; run < 2500 && CHECK.wrong() < 40; run++) {
             new ModelTest(run).play(run);
         }
         CHECK.finish();
@@ -62,6 +66,10 @@ public final class ModelTest {
         TicketJudge x = new TicketJudge();
         Model model = new Model();
         for (int k = 0; k < 20000; k++) {
+            if (k % TEXTS_OF_ONE == 0) {
+                x = new TicketJudge();
+                model = new Model();
+            }
             String text = text(chance, false);
             CHECK.due("house() of '" + text + "'", Check.house(x, text), model.read(text));
             for (int w = 0; w < 7; w++) {
@@ -112,6 +120,7 @@ public final class ModelTest {
     }
 
     private void due(String call, long got, long want) {
+        calls++;
         story.append(call).append(' ');
         CHECK.due(story.length() > 3000 ? ".." + story.substring(story.length() - 3000) : story.toString(), got, want);
     }
@@ -119,7 +128,7 @@ public final class ModelTest {
     private void play(int run) {
         story.append("run ").append(run).append(": ");
         walked();
-        for (int call = 0; call < 120; call++) {
+        for (int round = 0; round < 120 && calls < CALLS_OF_ONE; round++) {
             int what = chance.nextInt(40);
             if (what < 2) {
                 house();
@@ -138,7 +147,7 @@ public final class ModelTest {
             } else {
                 letter();
             }
-            if (chance.nextInt(10) == 0) {
+            if (chance.nextInt(16) == 0) {
                 looks();
             }
         }
@@ -152,6 +161,7 @@ public final class ModelTest {
             return;
         }
         due("end(0)", x.end(0), 0);
+        calls += 11;
         tape.setLength(0);
         Check.put(x, text);
         story.append("put '").append(text).append("' ");
@@ -252,6 +262,7 @@ public final class ModelTest {
 
     private void walked() {
         if (latest != null) {
+            calls += 14;
             sameLatest(story.toString(), x, latest);
         } else {
             due("walked(0)", x.walked(0), -1);
