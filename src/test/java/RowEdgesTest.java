@@ -29,6 +29,8 @@ public final class RowEdgesTest {
         shortWithEachLife();
         neverWithoutLife();
         ticksOfThoseThatLiveAlone();
+        nineTicksOfEachTicket();
+        eachTicketChangesHands();
         noSuchLetter();
         behindAFlaw();
         rulesOfARow();
@@ -311,6 +313,47 @@ public final class RowEdgesTest {
         due("13: the old one has what it had", y.ticket(0, 3), 2);
         y.letter(10);
         due("13: and no more", y.ticket(0, 3), 2);
+    }
+
+    private static void nineTicksOfEachTicket() {
+        TicketJudge x = Check.judge("life 9 stay");
+        Check.row(x, 0, 1, 8, 1, 8);
+        for (int ticks = 1; ticks <= 10; ticks++) {
+            x.letter(10);
+            for (int t = 0; t < 4; t++) {
+                due("13: TICKS of " + t, x.ticket(t, 3), Math.min(ticks, 9));
+                due("13: lives " + t, x.ticket(t, 0), ticks < 9 ? 1 : 0);
+                due("13: of somebody " + t, x.ticket(t, 1), 1 + t % 2);
+                due("13: BOUND " + t, x.ticket(t, 2), t % 2);
+            }
+            due("12: given", x.row(4), 4);
+            due("12: the VISITOR's STORE", x.row(1), 2);
+            due("12: the STRANGER's", x.row(2), 3);
+            due("12: he KNOWS", x.row(3), 10);
+        }
+    }
+
+    /** A TICKET of nobody is the VISITOR's, then the STRANGER's, then the VISITOR's again. */
+    private static void eachTicketChangesHands() {
+        for (int number = 0; number < 4; number++) {
+            TicketJudge x = Check.judge("early links keep");
+            x.begin(0);
+            for (int k = 0; k < number; k++) {
+                x.letter(1);
+                x.letter(2);
+            }
+            x.letter(7);
+            x.letter(4);
+            due("12: TICKET " + number, x.row(1), number);
+            int[] logins = {1, 8, 1, 1, 8, 8};
+            for (int l : logins) {
+                due("11: letter(" + l + ")", x.letter(l), 1);
+                due("13: of whom " + number, x.ticket(number, 1), l == 1 ? 1 : 2);
+                due("13: BOUND " + number, x.ticket(number, 2), l == 1 ? 0 : 1);
+                due("13: it lives", x.ticket(number, 0), 1);
+            }
+            due("12: given", x.row(4), number + 1);
+        }
     }
 
     private static void noSuchLetter() {

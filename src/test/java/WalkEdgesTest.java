@@ -30,6 +30,7 @@ public final class WalkEdgesTest {
         mendByCost();
         mendByFewestThenLeast();
         mendDearest();
+        mendByEachRuleAlone();
         mendKeepsTasks();
         mendWithSpentSets();
         mendChangesNothing();
@@ -407,6 +408,20 @@ public final class WalkEdgesTest {
         due("17: three for 198", x.mend(6, 7), 12);
         x.cost(4, 49);
         due("17: three for 197", x.mend(6, 7), 56);
+    }
+
+    private static void mendByEachRuleAlone() {
+        String[] houses = {"early links keep", "told", "forms", "links", "told", "early life 4"};
+        int[] kinds = {1, 1, 2, 4, 1, 7};
+        int[] lengths = {5, 5, 5, 5, 5, 10};
+        int[] rules = {0, 2, 3, 4, 5, 6};
+        for (int k = 0; k < houses.length; k++) {
+            TicketJudge x = Check.judge(houses[k]);
+            for (int rule = 0; rule < 7; rule++) {
+                x.cost(rule, rule == rules[k] ? 98 : 99);
+            }
+            due("17: '" + houses[k] + "' by RULE " + rules[k], x.mend(lengths[k], kinds[k]), 1 << rules[k]);
+        }
     }
 
     private static void mendKeepsTasks() {
